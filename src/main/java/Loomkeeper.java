@@ -119,7 +119,8 @@ public final class Loomkeeper {
 
     // ---- programs
 
-    public int set(int program, int step, int kind, int a, int b) {
+    public int set(int program, int step, int kind, int a, int b)
+            throws IndexOutOfBoundsException, IllegalArgumentException {
         Program p = programAt(program);
         if (p == null || !isBelow(step, STEPS)) {
             throw new IndexOutOfBoundsException("no such step");
@@ -138,7 +139,8 @@ public final class Loomkeeper {
         return countAstray(p);
     }
 
-    public int check(int program, int step, int kind, int a, int b) {
+    public int check(int program, int step, int kind, int a, int b)
+            throws IndexOutOfBoundsException, IllegalArgumentException {
         Program p = programAt(program);
         if (p == null || !isBelow(step, STEPS)) {
             throw new IndexOutOfBoundsException("no such step");
@@ -163,7 +165,8 @@ public final class Loomkeeper {
 
     // ---- workflows
 
-    public int start(int program, int input) {
+    public int start(int program, int input)
+            throws IndexOutOfBoundsException, IllegalArgumentException, IllegalStateException {
         Program p = programAt(program);
         if (p == null) {
             throw new IndexOutOfBoundsException("no such program");
@@ -179,7 +182,8 @@ public final class Loomkeeper {
         return f.index;
     }
 
-    public boolean signal(int workflow, int signal, int with) {
+    public boolean signal(int workflow, int signal, int with)
+            throws IndexOutOfBoundsException, IllegalArgumentException {
         Flow f = flowAt(workflow);
         if (f == null) {
             throw new IndexOutOfBoundsException("no such workflow");
@@ -190,7 +194,7 @@ public final class Loomkeeper {
         return send(f, SIGNAL, (long) NUMBERS * signal + with);
     }
 
-    public boolean cancel(int workflow) {
+    public boolean cancel(int workflow) throws IndexOutOfBoundsException {
         Flow f = flowAt(workflow);
         if (f == null) {
             throw new IndexOutOfBoundsException("no such workflow");
@@ -198,7 +202,8 @@ public final class Loomkeeper {
         return send(f, ASKED, 0);
     }
 
-    public int reset(int workflow, int events) {
+    public int reset(int workflow, int events)
+            throws IndexOutOfBoundsException, IllegalArgumentException, IllegalStateException {
         Flow old = flowAt(workflow);
         if (old == null) {
             throw new IndexOutOfBoundsException("no such workflow");
@@ -250,7 +255,7 @@ public final class Loomkeeper {
         return tokens;
     }
 
-    public boolean complete(int token, int result) {
+    public boolean complete(int token, int result) throws IllegalArgumentException {
         if (result < -MOST_VALUE || result > MOST_VALUE) {
             throw new IllegalArgumentException("result is out of range");
         }
@@ -282,7 +287,7 @@ public final class Loomkeeper {
         return true;
     }
 
-    public int tick(int ticks) {
+    public int tick(int ticks) throws IllegalArgumentException {
         if (ticks < 1 || ticks > MOST_TICKS) {
             throw new IllegalArgumentException("ticks are out of range");
         }
@@ -300,7 +305,7 @@ public final class Loomkeeper {
         return flowCount;
     }
 
-    public int state(int workflow) {
+    public int state(int workflow) throws IndexOutOfBoundsException {
         Flow f = flowAt(workflow);
         if (f == null) {
             throw new IndexOutOfBoundsException("no such workflow");
@@ -311,7 +316,8 @@ public final class Loomkeeper {
         return f.run.astray ? ASTRAY : 0;
     }
 
-    public int about(int workflow, int what) {
+    public int about(int workflow, int what)
+            throws IndexOutOfBoundsException, IllegalArgumentException, IllegalStateException {
         Flow f = flowAt(workflow);
         if (f == null) {
             throw new IndexOutOfBoundsException("no such workflow");
@@ -327,7 +333,8 @@ public final class Loomkeeper {
         return fact(f, r, what);
     }
 
-    public int aboutAnew(int workflow, int what) {
+    public int aboutAnew(int workflow, int what)
+            throws IndexOutOfBoundsException, IllegalArgumentException, IllegalStateException {
         Flow f = flowAt(workflow);
         if (f == null) {
             throw new IndexOutOfBoundsException("no such workflow");
@@ -342,7 +349,7 @@ public final class Loomkeeper {
         return fact(f, r, what);
     }
 
-    public int parent(int workflow) {
+    public int parent(int workflow) throws IndexOutOfBoundsException {
         Flow f = flowAt(workflow);
         if (f == null) {
             throw new IndexOutOfBoundsException("no such workflow");
@@ -350,7 +357,7 @@ public final class Loomkeeper {
         return f.parent;
     }
 
-    public int events(int workflow) {
+    public int events(int workflow) throws IndexOutOfBoundsException {
         Flow f = flowAt(workflow);
         if (f == null) {
             throw new IndexOutOfBoundsException("no such workflow");
@@ -358,7 +365,7 @@ public final class Loomkeeper {
         return f.history.size();
     }
 
-    public int kind(int workflow, int event) {
+    public int kind(int workflow, int event) throws IndexOutOfBoundsException {
         Flow f = flowAt(workflow);
         if (f == null || !isBelow(event, f.history.size())) {
             throw new IndexOutOfBoundsException("no such event");
@@ -366,7 +373,7 @@ public final class Loomkeeper {
         return f.history.kindAt(event);
     }
 
-    public long number(int workflow, int event) {
+    public long number(int workflow, int event) throws IndexOutOfBoundsException {
         Flow f = flowAt(workflow);
         if (f == null || !isBelow(event, f.history.size())) {
             throw new IndexOutOfBoundsException("no such event");
@@ -378,7 +385,7 @@ public final class Loomkeeper {
         return work.size();
     }
 
-    public int task(int task, int what) {
+    public int task(int task, int what) throws IndexOutOfBoundsException, IllegalArgumentException {
         Task t = taskAt(task);
         if (t == null) {
             throw new IndexOutOfBoundsException("no such task");
@@ -509,11 +516,12 @@ public final class Loomkeeper {
             if (f == null) {
                 return;
             }
-            f.catchUp();
+            f.run.advance(f.history.size());
+            f.letGo();
             if (f.run.wantsEvent()) {
                 Flow started = make(f);
                 // It has to wait for its child by the time that ends, which may be at once.
-                f.catchUp();
+                f.run.advance(f.history.size());
                 going.addLast(started);
             } else {
                 leave(f);
@@ -622,7 +630,7 @@ public final class Loomkeeper {
         for (int i = 1; i < events; i++) {
             f.history.add(old.history.kindAt(i), old.history.numberAt(i));
         }
-        f.catchUp();
+        f.run.advance(events);
         f.through = events;
         if (f.run.waitsForActivity()) {
             schedule(f, (int) f.run.wantedNumber);
@@ -753,10 +761,6 @@ public final class Loomkeeper {
         private final int[] activities = new int[PILE];
         private int count;
 
-        void clear() {
-            count = 0;
-        }
-
         int size() {
             return count;
         }
@@ -784,12 +788,8 @@ public final class Loomkeeper {
 
     /** The signals that came before they were waited for, as their events tell them, as they came. */
     private static final class Signals {
-        private final int[] numbers = new int[LONGEST];
+        private final int[] numbers = new int[EVENTS_FOR_SIGNALS];
         private int count;
-
-        void clear() {
-            count = 0;
-        }
 
         int size() {
             return count;
@@ -864,8 +864,8 @@ public final class Loomkeeper {
         void begin(Program code, History events) {
             program = code;
             history = events;
-            pile.clear();
-            kept.clear();
+            pile.count = 0;
+            kept.count = 0;
             taken = 1;
             place = 0;
             value = (int) events.numberAt(0);
@@ -963,7 +963,11 @@ public final class Loomkeeper {
             if (kind == wanted && (anyNumber || number == wantedNumber)) {
                 wanted = NONE;
                 taken++;
-                follow(kind, number);
+                if (number < 0 && (kind == CHILD || kind == BEGAN)) {
+                    failNow();
+                } else {
+                    follow(kind, number);
+                }
             } else if (wanted == MARKED) {
                 wanted = NONE;
                 value = 0;
@@ -986,8 +990,15 @@ public final class Loomkeeper {
                     waits = signal == NONE ? FOR_TIMER : FOR_EITHER;
                     break;
                 case CHILD:
+                    waits = FOR_CHILD;
+                    child = (int) number;
+                    break;
                 case BEGAN:
-                    followStart(kind, (int) number);
+                    if (wantedNumber == NONE) {
+                        want(END, 10L * value + ENDS_AS_NEW);
+                    } else {
+                        value = (int) number;
+                    }
                     break;
                 case DREW:
                     value = (int) number;
@@ -998,19 +1009,6 @@ public final class Loomkeeper {
                 default:
                     over = true;
                     break;
-            }
-        }
-
-        private void followStart(int kind, int number) {
-            if (number < 0) {
-                failNow();
-            } else if (kind == CHILD) {
-                child = number;
-                waits = FOR_CHILD;
-            } else if (wantedNumber == NONE) {
-                want(END, 10L * value + ENDS_AS_NEW);
-            } else {
-                value = number;
             }
         }
 
@@ -1316,9 +1314,8 @@ public final class Loomkeeper {
             run.advance(history.size());
         }
 
-        /** Takes the events that came; a task that is not waited for any more by them is closed. */
-        void catchUp() {
-            run.advance(history.size());
+        /** Closes the task, if it is not waited for any more. */
+        void letGo() {
             Task t = task;
             if (t != null && !run.astray && !run.waitsForActivity()) {
                 t.close();
