@@ -15,7 +15,8 @@ public final class RandomTest {
     private int wrongAtFirst;
 
     private RandomTest(int seed) {
-        random = new Random(seed);
+        // Seeds side by side begin with nearly the same numbers.
+        random = new Random(seed * 0x9E3779B97F4A7C15L >>> 8);
         name = "seed " + seed;
     }
 
@@ -50,21 +51,30 @@ public final class RandomTest {
     }
 
     private void set(int program, int step, int style) {
-        int[] s = drawStep(style);
+        int[] s = drawStep(program, step, style);
         code[program][step] = s;
         Due.is(name + " set", x.set(program, step, s[0], s[1], s[2]), y.set(program, step, s[0], s[1], s[2]));
     }
 
-    private int[] drawStep(int style) {
+    /** Mostly, programs start only those of higher numbers, and go on as new behind an AWAIT alone. */
+    private int[] drawStep(int program, int step, int style) {
         int[][] ops = {
-            {0, 1, 2, 3, 3, 4, 5, 6, 7, 8, 9, 10, 11, 12, 13, 14, 15, 16, 17},
-            {1, 1, 3, 3, 9, 9, 9, 12, 12, 7, 15, 16, 2, 4},
-            {3, 3, 3, 4, 4, 9, 10, 17, 5, 6, 12, 14, 11, 7},
-            {1, 3, 3, 14, 14, 9, 9, 12, 15, 16, 7, 8, 5, 17},
+            {0, 1, 1, 2, 3, 3, 4, 5, 6, 7, 8, 9, 10, 11, 12, 13, 14, 15, 16},
+            {1, 1, 1, 1, 3, 3, 9, 9, 9, 12, 12, 12, 7, 15, 16, 2, 4},
+            {3, 3, 3, 4, 4, 9, 9, 10, 5, 6, 12, 12, 14, 11, 7, 1, 1, 2},
+            {1, 1, 3, 3, 14, 14, 9, 9, 12, 15, 16, 7, 8, 5, 2},
         };
         int op = ops[style][random.nextInt(ops[style].length)];
         int most = op == 3 || op == 4 ? 2 : op == 5 || op == 6 ? 9 : op == 2 ? 6 : 7;
         int a = random.nextInt(12) == 0 ? draw(0, 99) : draw(0, most);
+        boolean wild = random.nextInt(60) == 0;
+        if ((op == 9 || op == 10) && !wild) {
+            op = program == 5 ? 1 : op;
+            a = program == 5 ? a : draw(program + 1, 5) + 6 * draw(0, 1);
+        }
+        if (wild || step > 0 && code[program][step - 1][0] == 3 && random.nextInt(style == 2 ? 3 : 8) == 0) {
+            op = 17;
+        }
         return new int[] {op, a, random.nextInt(12) == 0 ? draw(0, 99) : draw(0, 5)};
     }
 
@@ -78,11 +88,14 @@ public final class RandomTest {
             return "start " + p + " " + input;
         }
         int w = draw(0, n - 1);
-        if (kind < 40) {
+        if (kind < 38) {
             int s = draw(0, 2);
             int with = draw(0, 3);
-            Due.is(name + " signal", x.signal(w, s, with), y.signal(w, s, with));
-            return "signal " + w + " " + s + " " + with;
+            int times = random.nextInt(60) == 0 ? draw(1, 60) : 1;
+            for (int i = 0; i < times; i++) {
+                Due.is(name + " signal", x.signal(w, s, with), y.signal(w, s, with));
+            }
+            return "signal " + w + " " + s + " " + with + ", times " + times;
         }
         if (kind < 46) {
             Due.is(name + " cancel", x.cancel(w), y.cancel(w));
@@ -126,7 +139,7 @@ public final class RandomTest {
         int p = draw(0, 5);
         int s = draw(0, 6);
         int[] was = code[p][s];
-        int[] c = drawStep(style);
+        int[] c = drawStep(p, s, style);
         int astray = x.check(p, s, c[0], c[1], c[2]);
         Due.is(name + " check", astray, y.check(p, s, c[0], c[1], c[2]));
         if (draw(0, 2) == 0) {
