@@ -38,6 +38,7 @@ public final class Loomkeeper {
     /** No workflow, no event and no signal has it. */
     private static final int NONE = -1;
 
+    private static final int OP_END = 0;
     private static final int OP_CALL = 1;
     private static final int OP_TIMER = 2;
     private static final int OP_AWAIT = 3;
@@ -712,7 +713,7 @@ public final class Loomkeeper {
         }
 
         int operation(int step) {
-            return step >= 0 && step < operations.length ? operations[step] : 0;
+            return step >= 0 && step < operations.length ? operations[step] : OP_END;
         }
 
         int first(int step) {
@@ -1117,7 +1118,7 @@ public final class Loomkeeper {
                 case OP_MARK:
                     want(MARKED, a);
                     break;
-                case 0:
+                case OP_END:
                     want(END, 10L * value + ENDS_WELL);
                     break;
                 default:
@@ -1150,8 +1151,10 @@ public final class Loomkeeper {
                     shielded = false;
                     ending = askedInShield ? ENDS_CANCELLED : 0;
                     break;
-                default:
+                case OP_FAIL:
                     failNow();
+                    break;
+                default:
                     break;
             }
         }

@@ -1,3 +1,8 @@
+import java.io.IOException;
+import java.io.UncheckedIOException;
+import java.nio.file.Files;
+import java.nio.file.Path;
+
 /** Compares answers with those that are due, and prints each one that is not. */
 final class Due {
     // The operations, by the names of the document.
@@ -20,8 +25,12 @@ final class Due {
     static final int OPEN = 16;
     static final int AS_NEW = 17;
 
+    private static final String DOCUMENT = read();
+
     private static int answers = 0;
     private static int wrong = 0;
+    /** The words of the document that the test at hand is for. */
+    private static String words = "";
 
     interface Call {
         long answer();
@@ -30,11 +39,51 @@ final class Due {
     private Due() {
     }
 
+    /**
+     * A test of its own for these words of the document, with the case behind " // " if there are several;
+     * it may neither throw nor compare nothing.
+     */
+    static void holds(String document, Runnable test) {
+        words = "\"" + document + "\": ";
+        if (!DOCUMENT.contains(document.split(" // ")[0])) {
+            tell("these words do not stand in the document");
+        }
+        int before = answers;
+        try {
+            test.run();
+        } catch (RuntimeException e) {
+            tell("the test threw " + e);
+        }
+        if (answers == before) {
+            tell("the test compared nothing");
+        }
+        words = "";
+    }
+
+    private static String read() {
+        try {
+            return Files.readString(Path.of("../shared/DOC.md"));
+        } catch (IOException e) {
+            throw new UncheckedIOException(e);
+        }
+    }
+
+    private static void tell(String what) {
+        wrong++;
+        System.out.println(words + what);
+    }
+
     static void is(String what, long got, long due) {
         answers++;
         if (got != due) {
-            wrong++;
-            System.out.println(what + " answered " + got + ", due is " + due);
+            tell(what + " answered " + got + ", due is " + due);
+        }
+    }
+
+    static void is(String what, String got, String due) {
+        answers++;
+        if (!got.equals(due)) {
+            tell(what + " is\n    " + got + "\n  due is\n    " + due);
         }
     }
 
@@ -55,7 +104,7 @@ final class Due {
         throwsOne(what, call, IllegalStateException.class);
     }
 
-    private static void throwsOne(String what, Call call, Class<?> due) {
+    static void throwsOne(String what, Call call, Class<?> due) {
         answers++;
         String got;
         try {
@@ -66,8 +115,7 @@ final class Due {
             }
             got = "threw " + e.getClass().getName();
         }
-        wrong++;
-        System.out.println(what + " " + got + ", due is " + due.getName());
+        tell(what + " " + got + ", due is " + due.getName());
     }
 
     /** Sets the steps of a program from 0 on; each one is an operation, and its numbers as far as needed. */

@@ -1,8 +1,10 @@
+import java.util.List;
 import java.util.Random;
 
 /**
  * Promises 2 to 24: long runs of calls drawn by fixed seeds. Each answer is compared with Plain's, and so
- * is all that can be seen behind each call; crash() may come anywhere without a difference.
+ * is all that can be seen behind each call. Plain knows neither crash() nor the calls that throw: they may
+ * come anywhere without a difference.
  */
 public final class RandomTest {
     private static final int RUNS = 1500;
@@ -43,10 +45,32 @@ public final class RandomTest {
         }
         int calls = draw(20, 150);
         for (int i = 0; i < calls; i++) {
+            refused();
             String call = call(style);
             if (!same(name + " call " + i + " " + call)) {
                 return;
             }
+        }
+    }
+
+    /** A call with arguments that are out of range, of which Plain is told nothing. */
+    private void refused() {
+        int n = y.workflows();
+        List<Face.Rule> rules = Face.rules(n, 4, y.tasks());
+        int which = random.nextInt(rules.size());
+        Face.Range[] ranges = rules.get(which).ranges();
+        int[] arguments = new int[ranges.length];
+        for (int i = 0; i < arguments.length; i++) {
+            int[] edges = {ranges[i].from() - 1, ranges[i].from(), ranges[i].to(), ranges[i].to() + 1};
+            int edge = random.nextInt(8);
+            arguments[i] = edge < 4 ? edges[edge] : Face.FAR[random.nextInt(Face.FAR.length)];
+        }
+        boolean is = arguments[0] >= 0 && arguments[0] < n;
+        Face.Rule rule = Face.rules(n, is ? y.events(arguments[0]) : 1, y.tasks()).get(which);
+        Class<?> due = rule.thrown(arguments);
+        boolean hasNoEnd = rule.name().equals("reset") && is && y.state(arguments[0]) % 5 == 0;
+        if (due != null && !hasNoEnd) {
+            Due.throwsOne(name + " " + rule.name() + " " + arguments[0], () -> rule.call().of(x, arguments), due);
         }
     }
 
