@@ -66,23 +66,26 @@ public final class CallEdgesTest {
 
     private static void eachArgument() {
         for (Face.Rule rule : rules()) {
-            Due.holds(rule.name() + "( // each argument for itself", () -> {
-                for (int i = 0; i < rule.ranges().length; i++) {
-                    Face.Range range = rule.ranges()[i];
-                    int[] edges = {range.from() - 1, range.from(), range.to(), range.to() + 1};
-                    for (int edge : edges) {
-                        int[] arguments = least(rule);
-                        arguments[i] = edge;
-                        throwsWhatIsDue(rule, arguments);
+            for (int i = 0; i < rule.ranges().length; i++) {
+                Face.Range range = rule.ranges()[i];
+                int parameter = i;
+                Due.holds(range.words() + " // " + rule.name(), () -> {
+                    for (int edge : new int[] {range.from() - 1, range.from(), range.to(), range.to() + 1}) {
+                        throwsWhatIsDue(rule, with(rule, parameter, edge));
                     }
                     for (int far : Face.FAR) {
-                        int[] arguments = least(rule);
-                        arguments[i] = far;
-                        throwsWhatIsDue(rule, arguments);
+                        throwsWhatIsDue(rule, with(rule, parameter, far));
                     }
-                }
-            });
+                });
+            }
         }
+    }
+
+    /** The least arguments, but for one. */
+    private static int[] with(Face.Rule rule, int parameter, int number) {
+        int[] arguments = least(rule);
+        arguments[parameter] = number;
+        return arguments;
     }
 
     private static void whichIsFirst() {
@@ -92,8 +95,8 @@ public final class CallEdgesTest {
                 for (int i = 0; i < n; i++) {
                     for (int j = i + 1; j < n; j++) {
                         for (int edge = 0; edge < 4; edge++) {
-                            int[] arguments = least(rule);
-                            arguments[i] = edge % 2 == 0 ? rule.ranges()[i].from() - 1 : rule.ranges()[i].to() + 1;
+                            int[] arguments = with(rule, i,
+                                edge % 2 == 0 ? rule.ranges()[i].from() - 1 : rule.ranges()[i].to() + 1);
                             arguments[j] = edge / 2 == 0 ? rule.ranges()[j].from() - 1 : rule.ranges()[j].to() + 1;
                             throwsWhatIsDue(rule, arguments);
                         }
