@@ -113,7 +113,8 @@ public final class Loomkeeper {
         }
         Program first = new Program(0);
         for (int i = 0; i < flows.length; i++) {
-            flows[i] = new Flow(i, first);
+            History history = new History();
+            flows[i] = new Flow(i, first, history, new Run(first, history));
         }
         scratch = new Run(first, new History());
     }
@@ -1277,7 +1278,7 @@ public final class Loomkeeper {
     /** A workflow. */
     private static final class Flow {
         private final int index;
-        private final History history = new History();
+        private final History history;
         private final Run run;
         private Program program;
         private int parent = NONE;
@@ -1290,10 +1291,11 @@ public final class Loomkeeper {
         /** How many events it has gone through: an ASKED among them asks no child any more. */
         private int through;
 
-        Flow(int index, Program program) {
+        Flow(int index, Program program, History history, Run run) {
             this.index = index;
             this.program = program;
-            this.run = new Run(program, history);
+            this.history = history;
+            this.run = run;
         }
 
         boolean hasEnded() {
