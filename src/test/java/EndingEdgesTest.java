@@ -261,6 +261,19 @@ public final class EndingEdgesTest {
             Due.is("the second one", Words.history(x, 2), "STARTED 0, SIGNAL 100, BEGAN 3, END 4");
             Due.is("the third one", Words.history(x, 3), "STARTED 0, ASKED 0, END 3");
         });
+        Due.holds("the child is asked as well // one of its own program, that by set has not gone on yet", () -> {
+            Loomkeeper x = Words.keeper("ADD 0", "BRANCH 5", "TAKE 1", "CHILD 0");
+            Words.set(x, 0, 5, "AWAIT 1");
+            x.start(0, 1);
+            Words.set(x, 0, 0, "AWAIT 9");
+            Due.is("cancel of one astray", x.cancel(0), true);
+            Words.set(x, 0, 5, "CALL 5");
+            Due.is("the child still waits for 9", Words.where(x, 1), "at 1, value 0, signal 9");
+            Due.is("set", Words.set(x, 0, 0, "ADD 0"), 1);
+            Due.is("the parent", Words.history(x, 0), "STARTED 1, CHILD 1, ASKED 0, END 3");
+            Due.is("the child is asked ahead of its CALL", Words.history(x, 1), "STARTED 0, ASKED 0");
+            Due.is("which is something else", x.state(1), 5);
+        });
         Due.holds("the child is asked as well // one that is astray", () -> {
             Loomkeeper x = withChild("UNDO 2", "CALL 3");
             Words.set(x, 1, 1, "CALL 4");

@@ -59,6 +59,14 @@ public final class StepEdgesTest {
             x.signal(0, 1, 9);
             Due.is("the next CHANCE fails", Words.history(x, 0, 60), "SIGNAL 109, END 92");
         });
+        Due.holds("When 60 events or more are behind it in its history // a MARK that is replayed ahead of a signal", () -> {
+            for (int n = 59; n <= 60; n++) {
+                Loomkeeper x = behind(n, "ADD 0", "AWAIT 2", "AWAIT 3");
+                x.signal(0, 2, 8);
+                Due.is("a MARK behind " + n, Words.set(x, 0, 1, "MARK 3"), n - 59);
+                Due.is("where it is", Words.where(x, 0), n == 59 ? "at 4, value 8, signal 3, kept 57" : "astray");
+            }
+        });
         Due.holds("When 60 events or more are behind it in its history // a step within one that has more", () -> {
             Loomkeeper x = Words.keeper("CALL 1", "AWAIT 1", "AWAIT 2");
             x.start(0, 2);
